@@ -1245,42 +1245,41 @@ public final class CloneOutliner {
 
         private boolean readCondition(Text text, int number) {
             negated[number] = text.take('!');
-            switch (text.next()) {
-                case 'd':
-                    return readDoneOrDated(text, number);
-                case 'l':
-                    kinds[number] = LEAF;
-                    return text.takeWord("leaf");
-                case 'm':
-                    kinds[number] = MANY;
-                    return text.takeWord("many");
-                case '>':
-                case '<':
-                    kinds[number] = text.take('>') ? GREATER : LESS;
-                    return readBound(text, number);
-                case '~':
-                    kinds[number] = LETTERS;
-                    return readLetters(text, number);
-                default:
-                    return false;
+            if (text.take('d')) {
+                return readDoneOrDated(text, number);
             }
+            if (text.take('l')) {
+                kinds[number] = LEAF;
+                return text.takeWord("eaf");
+            }
+            if (text.take('m')) {
+                kinds[number] = MANY;
+                return text.takeWord("any");
+            }
+            if (text.take('>')) {
+                return readBound(text, number, GREATER);
+            }
+            if (text.take('<')) {
+                return readBound(text, number, LESS);
+            }
+            return text.take('~') && readLetters(text, number);
         }
 
+        /** The "d" is behind the reader already. */
         private boolean readDoneOrDated(Text text, int number) {
-            text.take('d');
             boolean isDone = text.next() == 'o';
             kinds[number] = isDone ? DONE : DATED;
             return text.takeWord(isDone ? "one" : "ated");
         }
 
-        private boolean readBound(Text text, int number) {
-            text.take('<');
+        private boolean readBound(Text text, int number, int kind) {
+            kinds[number] = kind;
             numbers[number] = text.takeValue();
             return numbers[number] != NONE;
         }
 
         private boolean readLetters(Text text, int number) {
-            text.take('~');
+            kinds[number] = LETTERS;
             letterCounts[number] = text.takeLetters(letters, number * NAME_LIMIT);
             return letterCounts[number] > 0;
         }
