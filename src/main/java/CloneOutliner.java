@@ -99,7 +99,7 @@ public final class CloneOutliner {
         int reason = survey.reasonAgainstNew(tree, parent);
         if (reason != NO_REASON) {
             chain.keep(CODE_ADD, 0, reason);
-            refuse();
+            throw new UnsupportedOperationException("it is refused");
         }
         draft.copyFrom(tree);
         int item = draft.makeItem(readName, 0, length);
@@ -116,7 +116,7 @@ public final class CloneOutliner {
         int reason = survey.reasonAgainst(tree, item, parent);
         if (reason != NO_REASON) {
             chain.keep(CODE_CLONE, 0, reason);
-            refuse();
+            throw new UnsupportedOperationException("it is refused");
         }
         draft.copyFrom(tree);
         draft.insertChild(parent, index, item);
@@ -149,7 +149,7 @@ public final class CloneOutliner {
         draft.copyFrom(tree);
         takeBlock(parent, first, count);
         if (!putBlock(CODE_MOVE, count, to, index)) {
-            refuse();
+            throw new UnsupportedOperationException("it is refused");
         }
         adoptDraft();
         return count;
@@ -166,7 +166,7 @@ public final class CloneOutliner {
         draft.copyFrom(tree);
         takeBlock(parent, index, 1);
         if (!putBlock(CODE_INDENT, 1, to, draft.childCount(to))) {
-            refuse();
+            throw new UnsupportedOperationException("it is refused");
         }
         adoptDraft();
         return to;
@@ -182,7 +182,7 @@ public final class CloneOutliner {
         draft.copyFrom(tree);
         takeBlock(lines.itemOf(above), lines.indexIn(line), 1);
         if (!putBlock(CODE_OUTDENT, 1, to, lines.indexIn(above) + 1)) {
-            refuse();
+            throw new UnsupportedOperationException("it is refused");
         }
         adoptDraft();
         return to;
@@ -374,7 +374,7 @@ public final class CloneOutliner {
         text.forget();
         draft.copyFrom(tree);
         if (!putEntries(item)) {
-            refuse();
+            throw new UnsupportedOperationException("it is refused");
         }
         adoptDraft();
         return entries.size();
@@ -467,10 +467,6 @@ public final class CloneOutliner {
         errorAt = text.position();
         text.forget();
         throw new IllegalArgumentException("the text is malformed");
-    }
-
-    private void refuse() {
-        throw new UnsupportedOperationException("it is refused");
     }
 
     // ---- changes
@@ -694,8 +690,6 @@ public final class CloneOutliner {
         int keepOnly(long kept) {
             long gone = present & ~kept;
             present &= kept;
-            done &= kept;
-            folded &= kept;
             return Long.bitCount(gone);
         }
 
@@ -1130,7 +1124,6 @@ public final class CloneOutliner {
 
         void forget() {
             count = 0;
-            at = 0;
         }
 
         void start() {
@@ -1444,8 +1437,8 @@ public final class CloneOutliner {
     /** The lines as they are shown. The row 0 is the hoisted item; the row of a line is the line plus 1. */
     private static final class Lines {
         private static final int ROW_LIMIT = PLACE_LIMIT + 1;
-        /** Each row looks at each of its children once, and is left once. */
-        private static final int STEP_LIMIT = ROW_LIMIT * (CHILD_LIMIT + 1);
+        /** Each place is looked at once, and each row is left once. */
+        private static final int STEP_LIMIT = ROW_LIMIT * 2;
 
         private final int[] items = new int[ROW_LIMIT];
         private final int[] rowsAbove = new int[ROW_LIMIT];
@@ -1511,24 +1504,27 @@ public final class CloneOutliner {
 
         int pathLength(Tree tree, int line) {
             int length = depthOf(line);
-            for (int row = line + 1; row > 0; row = rowsAbove[row]) {
+            int row = line + 1;
+            for (int step = depthOf(line); step >= 0; step--) {
                 length += tree.nameLength(items[row]);
+                row = rowsAbove[row];
             }
             return length;
         }
 
         /** Looks from the end of the path, as the way up is known. */
         char pathSign(Tree tree, int line, int index) {
-            int start = pathLength(tree, line);
-            for (int row = line + 1; row > 0; row = rowsAbove[row]) {
-                start -= tree.nameLength(items[row]);
+            int start = pathLength(tree, line) + 1;
+            int row = line + 1;
+            for (int step = depthOf(line); step >= 0; step--) {
+                start -= tree.nameLength(items[row]) + 1;
                 if (index >= start) {
                     return tree.letterAt(items[row], index - start);
                 }
-                start--;
-                if (index == start) {
+                if (index == start - 1) {
                     return '/';
                 }
+                row = rowsAbove[row];
             }
             return '/';
         }

@@ -71,10 +71,9 @@ public final class FaceTest {
 
     private static void checkMethods() {
         Set<String> due = new TreeSet<>(List.of(FACE));
-        Set<String> names = new TreeSet<>();
+        Set<String> names = publicNames();
         for (Method method : CloneOutliner.class.getDeclaredMethods()) {
             if (Modifier.isPublic(method.getModifiers())) {
-                names.add(method.getName());
                 expect(due.remove(describe(method)), "not in the document: " + describe(method));
                 expect(!Modifier.isStatic(method.getModifiers()), "static: " + describe(method));
             }
@@ -86,6 +85,16 @@ public final class FaceTest {
                 expect(!names.contains(method.getName()), "bears a public name: " + method.getName());
             }
         }
+    }
+
+    private static Set<String> publicNames() {
+        Set<String> names = new TreeSet<>();
+        for (Method method : CloneOutliner.class.getDeclaredMethods()) {
+            if (Modifier.isPublic(method.getModifiers())) {
+                names.add(method.getName());
+            }
+        }
+        return names;
     }
 
     private static String describe(Method method) {
@@ -121,6 +130,9 @@ public final class FaceTest {
         for (Class<?> type : classes) {
             expect(Modifier.isStatic(type.getModifiers()) && Modifier.isPrivate(type.getModifiers()),
                 "not private and static: " + type);
+            for (Method method : type.getDeclaredMethods()) {
+                expect(!publicNames().contains(method.getName()), "bears a public name: " + method);
+            }
         }
     }
 

@@ -9,6 +9,9 @@ import java.util.Random;
 /** Long runs of calls, drawn from fixed seeds, on the program and on the model; every answer must agree. */
 public final class RandomRunsTest {
     private static final int CALLS = 500;
+    /** Without these, the runs would not be worth much. */
+    private static final String[] NEEDED = {"reason 1", "reason 2", "reason 3", "reason 4", "reason 1 for 30",
+        "reason 4 for 30", "60 added", "300 places"};
     private static final String[] NAMES = {"a", "b", "x", "ab", "abc", "xx", "done", "leaf", "abcdefghij"};
 
     private final Map<String, Method> programMethods = new HashMap<>();
@@ -30,7 +33,7 @@ public final class RandomRunsTest {
                 wrong++;
             }
         }
-        for (String needed : new String[] {"reason 1", "reason 2", "reason 3", "reason 4", "reason 1 for 30", "reason 4 for 30", "60 added", "300 places"}) {
+        for (String needed : NEEDED) {
             if (!test.outcomes.containsKey(needed)) {
                 System.out.println("no run came to: " + needed);
                 wrong++;
@@ -158,8 +161,8 @@ public final class RandomRunsTest {
             case 8: case 9: call("indent", line); break;
             case 10: case 11: call("outdent", line); break;
             case 12: type(spoil(name())); call("rename", parent); break;
-            case 13: call("setNumber", parent, true, random.nextInt(4) == 0 ? edge(-2, 10000) : random.nextInt(40) - 1); break;
-            case 14: call("setNumber", parent, false, random.nextInt(4) == 0 ? edge(-1000, 1000) : random.nextInt(40) - 20); break;
+            case 13: call("setNumber", parent, true, mostly(random.nextInt(40) - 1, edge(-2, 10000))); break;
+            case 14: call("setNumber", parent, false, mostly(random.nextInt(40) - 20, edge(-1000, 1000))); break;
             case 15: case 16: call("setFlag", parent, random.nextBoolean(), random.nextInt(3) > 0); break;
             case 17: call("hoist", parent); break;
             case 18: call("unhoist"); break;
@@ -279,6 +282,10 @@ public final class RandomRunsTest {
         }
         int bound = count + more;
         return bound == 0 || random.nextInt(25) == 0 ? edge(-1, bound) : random.nextInt(bound);
+    }
+
+    private int mostly(int usual, int other) {
+        return random.nextInt(4) > 0 ? usual : other;
     }
 
     private int edge(int low, int high) {
