@@ -16,7 +16,26 @@ final class Checks {
         Object run();
     }
 
-    /** Says which promise the next checks are about. */
+    interface Builder {
+        CloneOutliner build();
+    }
+
+    interface Deed {
+        Object on(CloneOutliner x);
+    }
+
+    /** No item of any outline, the edges of an int among them. */
+    static int[] noItems(CloneOutliner x) {
+        int next = x.outline(1) + 1;
+        return new int[] {-1, next, 61, 62, 63, 64, 65, 128, -64, Integer.MIN_VALUE, Integer.MAX_VALUE};
+    }
+
+    /** No index where there are so many. */
+    static int[] noIndexes(int count) {
+        return new int[] {-1, count, count + 1, 64, -64, Integer.MIN_VALUE, Integer.MAX_VALUE};
+    }
+
+    /** Says which promise or which sentence the next checks are about. */
     void about(String promise) {
         part = promise;
     }
@@ -39,6 +58,25 @@ final class Checks {
             failed++;
             System.out.println(part + ", " + what + ": due is " + due + ", got " + got);
         }
+    }
+
+    /** The call is refused with this chain. */
+    void refused(String what, String chain, CloneOutliner x, Call call) {
+        due(what, REFUSED, call);
+        due("chain when " + what, chain, () -> chain(x));
+    }
+
+    /** The call throws and leaves all as it was, also what can be undone or restored. */
+    void leavesAll(String what, Class<?> due, Builder builder, Deed deed) {
+        leavesState(what, due, textState(builder.build()), builder, deed);
+    }
+
+    /** The call throws and leaves all as it was but the buffer, the error position and the refusal. */
+    void leavesState(String what, Class<?> due, String texts, Builder builder, Deed deed) {
+        CloneOutliner x = builder.build();
+        due(what, due, () -> deed.on(x));
+        same("texts after " + what, texts, textState(x));
+        same("state after " + what, state(builder.build()), state(x));
     }
 
     void end(String test) {
@@ -93,6 +131,32 @@ final class Checks {
         x.clone(5, 0, 3);
         x.clone(7, 0, 4);
         fill(x, 0, 5 + places - 297);
+        return x;
+    }
+
+    /**
+     * An outline where there is something of everything: a hoist, a filter, changes, a snapshot, an error at 0, the
+     * refusal 20 3, and the buffer. Its lines are "b" and "b/c", which are 2 and 3; 4 is hoisted.
+     */
+    static CloneOutliner busy(String buffer) {
+        CloneOutliner x = outlineOf("a@1=2x;.b;..c;d;.*1;e;f");
+        x.snapshot();
+        x.setNumber(3, false, 5);
+        x.setFlag(2, true, true);
+        type(x, "?");
+        try {
+            x.filter();
+        } catch (IllegalArgumentException malformed) {
+            // The error position is then there.
+        }
+        try {
+            x.clone(1, 2, 0);
+        } catch (UnsupportedOperationException refused) {
+            // The chain is then there.
+        }
+        x.hoist(4);
+        filter(x, "!~zz");
+        type(x, buffer);
         return x;
     }
 
@@ -169,6 +233,46 @@ final class Checks {
             } catch (NoSuchElementException none) {
                 text.append("none\n");
             }
+        }
+        return text.toString();
+    }
+
+    /** The length of the buffer, the error position and the chain. */
+    static String textState(CloneOutliner x) {
+        StringBuilder text = new StringBuilder().append(x.outline(8));
+        try {
+            text.append(" at ").append(x.errorPosition());
+        } catch (IllegalStateException none) {
+            text.append(" no error");
+        }
+        try {
+            String numbers = chain(x);
+            text.append(", ").append(numbers);
+        } catch (IllegalStateException none) {
+            text.append(", no refusal");
+        }
+        return text.toString();
+    }
+
+    /** All the rest; unhoists, undoes and restores whatever there is, so that the object is used up then. */
+    static String state(CloneOutliner x) {
+        StringBuilder text = new StringBuilder().append(contents(x)).append(paths(x));
+        for (int what = 0; what <= 10; what++) {
+            text.append(what == 8 ? "" : " " + x.outline(what));
+        }
+        for (int line = 0; line < x.outline(3); line++) {
+            text.append(x.line(line, 5));
+        }
+        for (int hoists = x.outline(5); hoists > 0; hoists--) {
+            text.append(" hoist ").append(x.unhoist());
+        }
+        for (int changes = x.outline(9); changes > 0; changes--) {
+            text.append("\nundo ").append(x.undo()).append('\n').append(contents(x));
+        }
+        try {
+            text.append("restore ").append(x.restore()).append(contents(x));
+        } catch (IllegalStateException none) {
+            text.append("no snapshot");
         }
         return text.toString();
     }

@@ -71,6 +71,13 @@ public final class OutlineModel {
     private List<String> conditions = new ArrayList<>();
     private int error = -1;
     private List<Integer> chain = new ArrayList<>();
+    /** A state that has become the present one is never changed, so that its ways and lines are found once. */
+    private State waysOf = null;
+    private List<List<Integer>> presentWays = null;
+    private State linesOf = null;
+    private List<Integer> linesHoisted = null;
+    private List<String> linesConditions = null;
+    private List<List<Integer>> presentLines = null;
 
     public OutlineModel() {
     }
@@ -136,7 +143,7 @@ public final class OutlineModel {
         }
         next.items.get(parent).children.add(index, item);
         change(next);
-        return placesOf(state, item);
+        return places(item);
     }
 
     public int detach(int parent, int index) {
@@ -269,7 +276,7 @@ public final class OutlineModel {
         days.remove(-1);
         List<Integer> ordered = new ArrayList<>(days);
         int[] answers = {
-            parents(item).size(), it.children.size(), placesOf(state, item), it.name.length(), it.value, it.day,
+            parents(item).size(), it.children.size(), places(item), it.name.length(), it.value, it.day,
             it.done ? 1 : 0, it.folded ? 1 : 0, family.size(), sum, ordered.isEmpty() ? -1 : ordered.get(0),
             ordered.isEmpty() ? -1 : ordered.get(ordered.size() - 1), leaves, doneLeaves,
             ways(state, item, true).size() - 1,
@@ -305,7 +312,7 @@ public final class OutlineModel {
         for (int item : state.items.keySet()) {
             fitting += item != 0 && fits(item) ? 1 : 0;
         }
-        List<List<Integer>> ways = ways(state, 0, true);
+        List<List<Integer>> ways = waysNow();
         int steps = 0;
         for (List<Integer> way : ways) {
             steps = Math.max(steps, way.size() - 1);
@@ -578,9 +585,17 @@ public final class OutlineModel {
         return found;
     }
 
-    private static int placesOf(State in, int item) {
+    private List<List<Integer>> waysNow() {
+        if (waysOf != state) {
+            waysOf = state;
+            presentWays = ways(state, 0, true);
+        }
+        return presentWays;
+    }
+
+    private int places(int item) {
         int count = 0;
-        for (List<Integer> way : ways(in, 0, true)) {
+        for (List<Integer> way : waysNow()) {
             count += way.get(way.size() - 1) == item ? 1 : 0;
         }
         return count;
@@ -607,6 +622,16 @@ public final class OutlineModel {
     }
 
     private List<List<Integer>> lines() {
+        if (linesOf != state || linesConditions != conditions || !hoisted.equals(linesHoisted)) {
+            linesOf = state;
+            linesConditions = conditions;
+            linesHoisted = new ArrayList<>(hoisted);
+            presentLines = findLines();
+        }
+        return presentLines;
+    }
+
+    private List<List<Integer>> findLines() {
         List<List<Integer>> found = ways(state, hoistedItem(), !conditions.isEmpty());
         found.remove(0);
         Map<Integer, Boolean> kept = new TreeMap<>();
@@ -655,7 +680,7 @@ public final class OutlineModel {
             case '<': return sum < Integer.parseInt(rest);
             case '~': return it.name.contains(rest);
             case 'l': return it.children.isEmpty();
-            case 'm': return placesOf(state, item) > 1;
+            case 'm': return places(item) > 1;
             default: return condition.equals("done") ? it.done : it.day >= 0;
         }
     }
